@@ -11,8 +11,10 @@ public final class BandTest {
         wronged();
         bookAndBurn();
         books();
+        booksOfLikeFacts();
         booksByAlibisAndDays();
         innocent();
+        aSmallerCase();
         Due.end();
     }
 
@@ -45,6 +47,8 @@ public final class BandTest {
         // He tells: half of 1 is 0: no days.
         Due.is("half of 1, cut", x.rests(0), 1);
         Due.is("he tells", x.rests(1), 1);
+        x = Due.told("s 2;d 10;");
+        Due.is("half of 2 is all there is", x.rests(0), 2);
     }
 
     private static void gains() {
@@ -100,6 +104,7 @@ public final class BandTest {
         Due.is("sits(60, 2, 10)", x.sits(60, 2, 10), -9);
         Due.is("sits(60, 2, 6)", x.sits(60, 2, 6), -9);
         Due.is("sits(3, 1, 0): no cells will do", x.sits(3, 1, 0), -9);
+        Due.is("sits(1, 0, 0) of one day", Due.told("s1;d 1;").sits(1, 0, 0), 0);
         Due.is("sits(4, 0, 4)", x.sits(4, 0, 4), -1);
         Due.is("sits(4, 0, -1)", x.sits(4, 0, -1), -1);
         Due.is("sits(4, 3, 0)", x.sits(4, 3, 0), -1);
@@ -178,6 +183,48 @@ public final class BandTest {
         for (int wild : WILD) {
             Due.is("books(" + wild + ")", x.books(wild), -1);
         }
+    }
+
+    private static void booksOfLikeFacts() {
+        FifthsOfGuilt x = Due.told("s 5;s 5;f 1 10 14 9;f 9 5 18 9;d 12;");
+        // 10 and 5 by the first: 8 of 12 days; 9 and 5 by the second: 7 and 10 by 14, so 8, too.
+        x.book(0, 8);
+        Due.is("books(0): either", x.books(0), 2);
+        Due.is("books(1): the first", x.books(1), 1);
+        Due.is("books(2): none is sure", x.books(2), 0);
+    }
+
+    /** Rows are used again: what a larger case left in them must not be seen by a smaller one. */
+    private static void aSmallerCase() {
+        FifthsOfGuilt x = Due.told("s9;s9;s9;s9;s9;s9;f1 10 9 18 9 18 9 18;f1 10 18 18 18 18 18 18;a 3 0 8 9;a 3 1 8 9;");
+        x.find(0, 1);
+        x.find(1, 1);
+        x.hear(0, 1);
+        x.rests(0);
+        x.wronged(-1);
+        x.clash(1);
+        x.cellsFor(60);
+        x.books(0);
+        Due.read(x, "s 8;s 2;f 3 10 9 9;a 0 0 8 8;");
+        Due.is("now(0)", x.now(0), 10);
+        Due.is("now(4)", x.now(4), 10);
+        Due.is("cellsFor(8)", x.cellsFor(8), 2);
+        // 8 and 2 days; by the other law 4 and 1.
+        Due.is("wronged(-1)", x.wronged(-1), 5);
+        Due.is("clash(0)", x.clash(0), 0);
+        Due.is("clash(1)", x.clash(1), 0);
+        // {}: 8, 2. {0}: 2, 3 more: 4 and 5, 4 days and 5. {1}: 11, 1. {0, 1}: 7, 4: 6 and 3.
+        Due.is("gains(0)", x.gains(0), 0);
+        Due.is("rests(0)", x.rests(0), 1);
+        Due.is("rests(1)", x.rests(1), 3);
+        Due.is("books(0)", x.books(0), 2);
+        Due.is("innocent(0)", x.innocent(0), 0);
+        Due.is("proof(0, 4, 5, 0)", x.proof(0, 4, 5, 0), 0);
+        Due.is("cleared(0, 3, 5, 0)", x.cleared(0, 3, 5, 0), -9);
+        Due.is("forged(0, 1, 2)", x.forged(0, 1, 2), 6);
+        Due.read(x, "s 0;");
+        Due.is("cellsFor(1): nobody serves", x.cellsFor(1), 0);
+        Due.is("rests(0)", x.rests(0), 2);
     }
 
     private static void booksByAlibisAndDays() {

@@ -11,6 +11,7 @@ public final class CaseTest {
         faultsOfNumbers();
         faultsOfItems();
         faultsOfLimits();
+        faultsAtTheEnd();
         faultChangesNothing();
         suspects();
         facts();
@@ -178,6 +179,22 @@ public final class CaseTest {
         fault("t0 0;t0 0;", 5);
         fault("d1;d1;", 3);
         fault("d1;t0 0;s1; d1;", 12);
+    }
+
+    /** THE TEXT ends where it ends, whatever older bytes stood behind it. */
+    private static void faultsAtTheEnd() {
+        FifthsOfGuilt x = new FifthsOfGuilt();
+        Due.is("a longer text", Due.read(x, "sss111"), -10);
+        Due.is("letters end with the text", Due.read(x, "s"), -11);
+        Due.is("a longer text", Due.read(x, "s 1234"), -12);
+        Due.is("a number ends with the text", Due.read(x, "s 1"), -13);
+        Due.is("a longer text", Due.read(x, "s 1;"), 1);
+        Due.is("a stop behind the text", Due.read(x, "s 1"), -13);
+        String blanks = " ".repeat(199);
+        Due.is("letters at the last byte", Due.read(x, blanks + "s"), -210);
+        Due.is("wrong letters at the last byte", Due.read(x, blanks + "x"), -209);
+        Due.is("a number at the last byte", Due.read(x, "s" + blanks.substring(1) + "1"), -210);
+        Due.is("a stop at the last byte", Due.read(x, "s1" + blanks.substring(2) + ";"), 1);
     }
 
     private static void faultChangesNothing() {
