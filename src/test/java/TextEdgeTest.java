@@ -453,6 +453,10 @@ public final class TextEdgeTest {
         fault("d0 0;", 3);
         fault("d d", 2);
         fault("7", 0);
+        // No letters for a number, nor a number for the letter of that number.
+        fault("s ab;", 2);
+        fault("t0 zz;", 3);
+        fault("s1;97 0 0 0 0;", 3);
     }
 
     /** "the first TOKEN": what stands behind it does not count, however wrong. */
